@@ -16,7 +16,7 @@ public final class LoserKeepsTheBoard {
     private static final int TRIED = 100, THROWN = -1;
 
     private static final int TAPE_SIZE = 160, MOST_TEXTS = 6, MOST_OPEN = 5, MOST_DIGITS = 4, STACK_SIZE = 64;
-    private static final int PLAYS_PART = 0, THROWS_PART = 1, TIRES_PART = 2;
+    private static final int PLAYS_PART = 0, THROWS_PART = 1, TIRES_PART = 2, PARTS = 3;
     private static final String FIRST_RULE = "plays strong ; throws has < 1 ; tires 1 ;";
 
     // What a TEXT names, as places in the row of a pair's values.
@@ -26,8 +26,9 @@ public final class LoserKeepsTheBoard {
     private static final int ADD = -11, LESSEN = -12, TIMES = -13, NEGATE = -14;
     private static final int SMALLER = -15, SAME = -16, BOTH = -17, EITHER = -18, INVERT = -19;
 
-    // TOKENS: a SIGN is its own byte, the NAME k is FIRST_NAME + k; these stay away from the SIGNS' bytes.
-    private static final int KEY_PLAYS = 1, KEY_THROWS = 2, KEY_TIRES = 3, KEY_OR = 4, KEY_AND = 5, KEY_NOT = 6;
+    // TOKENS: a SIGN is its own byte, and no other TOKEN is one; a part's KEY is FIRST_PART + part, a NAME is
+    // FIRST_NAME + its place in the row of values.
+    private static final int FIRST_PART = 1, KEY_OR = 4, KEY_AND = 5, KEY_NOT = 6;
     private static final int A_NUMBER = 7, AT_END = 8, NO_TOKEN = 9, FIRST_NAME = 10;
 
     private static final int SHEETS = 4, MOST_ITEMS = 40;
@@ -52,7 +53,7 @@ public final class LoserKeepsTheBoard {
         now = new Club(texts);
         kept = new Club(texts);
         thought = new Club(texts);
-        thoughts = new Club[MOST_PLAYERS];
+        thoughts = new Club[MOST_PLAYERS - 1];
         for (int i = 0; i < thoughts.length; i++) {
             thoughts[i] = new Club(texts);
         }
@@ -580,18 +581,17 @@ public final class LoserKeepsTheBoard {
                 above++;
             }
         }
-        int shared = sharedFactor(above, m);
-        return part == 0 ? above / shared : m / shared;
+        return partOfLowest(part, above, m);
     }
 
-    /** The greatest number that divides both; 1 or more, as m is. */
-    private static int sharedFactor(int above, int m) {
-        for (int factor = m; factor > 1; factor--) {
-            if (above % factor == 0 && m % factor == 0) {
-                return factor;
+    /** Above (part 0) or below the line (1), both divided by the greatest number that divides both. */
+    private static int partOfLowest(int part, int above, int below) {
+        for (int factor = below; factor > 0; factor--) {
+            if (above % factor == 0 && below % factor == 0) {
+                return part == 0 ? above / factor : below / factor;
             }
         }
-        return 1;
+        return NONE;
     }
 
     public int image() {
@@ -826,7 +826,8 @@ public final class LoserKeepsTheBoard {
         }
 
         boolean areTwo(int one, int other) {
-            return isPlayer(one) && isPlayer(other) && one != other;
+            boolean isOne = one >= 0 && one < many && one < MOST_PLAYERS;
+            return isOne && other >= 0 && other < many && other < MOST_PLAYERS && one != other;
         }
 
         int placeOf(int thing) {
@@ -998,28 +999,23 @@ public final class LoserKeepsTheBoard {
         }
     }
 
-    /** A TEXT as code for a stack: its three parts, one behind the other. */
+    /** A TEXT as code for a stack: its parts, one behind the other, and where each of them ends. */
     private static final class Text {
         final int[] code;
-        final int throwsFrom;
-        final int tiresFrom;
+        final int[] ends;
 
-        Text(int[] code, int throwsFrom, int tiresFrom) {
+        Text(int[] code, int[] ends) {
             this.code = code;
-            this.throwsFrom = throwsFrom;
-            this.tiresFrom = tiresFrom;
+            this.ends = ends;
         }
 
         int codeAt(int i) {
             return i >= 0 && i < code.length ? code[i] : 0;
         }
 
-        int from(int part) {
-            return part == PLAYS_PART ? 0 : part == THROWS_PART ? throwsFrom : tiresFrom;
-        }
-
-        int till(int part) {
-            return part == PLAYS_PART ? throwsFrom : part == THROWS_PART ? tiresFrom : code.length;
+        /** Where a part ends, and the next one begins; 0 ahead of the first. */
+        int endOf(int part) {
+            return part >= 0 && part < ends.length ? ends[part] : 0;
         }
     }
 
@@ -1045,9 +1041,9 @@ public final class LoserKeepsTheBoard {
             if (text == null) {
                 return 0;
             }
-            int till = text.till(part);
+            int till = text.endOf(part);
             int top = 0;
-            for (int i = text.from(part); i < till; i++) {
+            for (int i = text.endOf(part - 1); i < till; i++) {
                 int c = text.codeAt(i);
                 if (c >= -NAMES && top < STACK_SIZE) {
                     stack[top] = c >= 0 ? c : values[-1 - c];
@@ -1118,28 +1114,25 @@ public final class LoserKeepsTheBoard {
             fault = NONE;
             codes = 0;
             place = 0;
+            int[] ends = new int[PARTS];
             next();
-            readPart(KEY_PLAYS);
-            int throwsFrom = codes;
-            readPart(KEY_THROWS);
-            int tiresFrom = codes;
-            readPart(KEY_TIRES);
+            for (int part = 0; part < PARTS; part++) {
+                expect(FIRST_PART + part);
+                readEither(0);
+                expect(';');
+                ends[part] = codes;
+            }
             expect(AT_END);
             size = 0;
-            if (fault != NONE) {
-                return null;
-            }
-            int[] made = new int[codes];
+            return fault == NONE ? new Text(madeCode(), ends) : null;
+        }
+
+        private int[] madeCode() {
+            int[] made = new int[bounded(codes, 0, TAPE_SIZE)];
             for (int i = 0; i < made.length && i < TAPE_SIZE; i++) {
                 made[i] = code[i];
             }
-            return new Text(made, throwsFrom, tiresFrom);
-        }
-
-        private void readPart(int key) {
-            expect(key);
-            readEither(0);
-            expect(';');
+            return made;
         }
 
         private void readEither(int open) {
@@ -1291,9 +1284,9 @@ public final class LoserKeepsTheBoard {
             for (int i = 0; i < TAPE_SIZE && isLetter(byteAt(place)); i++) {
                 place++;
             }
-            token = stands("plays") ? KEY_PLAYS
-                : stands("throws") ? KEY_THROWS
-                : stands("tires") ? KEY_TIRES
+            token = stands("plays") ? FIRST_PART + PLAYS_PART
+                : stands("throws") ? FIRST_PART + THROWS_PART
+                : stands("tires") ? FIRST_PART + TIRES_PART
                 : stands("or") ? KEY_OR
                 : stands("and") ? KEY_AND
                 : stands("not") ? KEY_NOT
@@ -1308,11 +1301,11 @@ public final class LoserKeepsTheBoard {
 
         /** Is the WORD that was just read this one? */
         private boolean stands(String word) {
-            if (word.length() != place - tokenFrom) {
+            if (tokenFrom < 0 || place > TAPE_SIZE || place - tokenFrom != word.length()) {
                 return false;
             }
             for (int i = 0; i < word.length(); i++) {
-                if (word.charAt(i) != byteAt(tokenFrom + i)) {
+                if (tape[tokenFrom + i] != word.charAt(i)) {
                     return false;
                 }
             }

@@ -37,6 +37,7 @@ public final class PromiseTests {
         forcing();
         games();
         gamesTire();
+        strongIsBounded();
         gamesAreCounted();
         evenings();
         eveningsPassTheLastRound();
@@ -399,6 +400,12 @@ public final class PromiseTests {
         fault("plays 1, 2;", 7);
         fault("plays hasx;", 6);
         fault("plays 1;throws has < x;tires 1;", 21);
+        fault("plays hasz;", 6);
+        fault("plays xas;", 6);
+        fault("plays 1;throws 0;or 0;", 17);
+        fault("plays 1;throws 0;tires 0;@", 25);
+        fault("plays 1;throws 0;tires 0;12345", 25);
+        fault("plays 1;throws 0;tires 0;or", 25);
     }
 
     private static void stands(String text) {
@@ -468,6 +475,12 @@ public final class PromiseTests {
         value("2<1+2", 1);
         value("-1<0", 1);
         value("(3<4)+(4<5)*10", 11);
+        value("(2 and 0)+5", 5);
+        value("(2 and 3)+5", 6);
+        value("(0 or 0)+5", 5);
+        value("(not 3)+5", 5);
+        value("(4<3)+5", 5);
+        value("(4=3)+5", 5);
         value("9999*9999*9999<0", 1);
         value("9999*9999*9999=-1027*1000*1000-349*1000-969", 1);
         value("8000*8000*8000*4-8000*8000*8000*4+7", 7);
@@ -616,6 +629,26 @@ public final class PromiseTests {
         due("it was 38 with all 8, and it tires by 1", x.told(3, 3), 37);
     }
 
+    private static void strongIsBounded() {
+        LoserKeepsTheBoard x = madeWith("9 game, strong", "plays strong;throws 0;tires number*5-9;", 0, 0);
+        x.set(2, 0, 9);
+        x.set(2, 1, 9);
+        for (int one = 0; one < 2; one++) {
+            x.set(3, 0, 6);
+            x.set(3, 1, 7);
+            due("1 wins", x.game(one, 1 - one), 1);
+            due("not below 0", x.told(0, 3) * 100 + x.told(1, 3), 0);
+        }
+        x.set(2, 0, 0);
+        x.set(2, 1, 0);
+        for (int one = 0; one < 2; one++) {
+            x.set(3, 0, 90);
+            x.set(3, 1, 91);
+            due("1 wins", x.game(one, 1 - one), 1);
+            due("not above 99", x.told(0, 3) * 100 + x.told(1, 3), 9999);
+        }
+    }
+
     private static void gamesAreCounted() {
         LoserKeepsTheBoard x = plain("9 game, won", 60, 40);
         int[] games = new int[40];
@@ -667,10 +700,15 @@ public final class PromiseTests {
             row(x, 1, 2, 1, item);
             due("no game: " + item, x.evening(1, 6), BAD);
         }
+        x = plain("10 evening, six", 10, 20, 30, 40, 50, 60);
+        row(x, 0, 2, 54);
+        due("5 and 4", x.evening(0, 4), 8);
+        row(x, 0, 2, 45);
+        due("4 and 5", x.evening(0, 4), 8);
         row(x, 1, 0, 1, 256 + 12);
         due("a byte's lowest bits are a game", x.evening(1, 7), 0);
         row(x, 1, 1, 65536 + 13);
-        due("a short's lowest bits are a game", x.evening(1, 7), 1);
+        due("a short's lowest bits are a game", x.evening(1, 1), 8);
     }
 
     private static void eveningsPassTheLastRound() {
@@ -747,6 +785,23 @@ public final class PromiseTests {
         give(x, 1, 3, 4);
         give(x, 2, 5);
         due("each draw brings all there: none leaves fewer", x.robin(7), NONE);
+        due("0 with 3 leaves none, 1 with 3 too, 2 with 3 three of 8",
+            tiring(new int[] {14, 12, 11, 13}, new int[] {0, 0, 0, 1}, 2, 3, -1, -1, 1, 3, 0, 3).robin(7), 3);
+        due("0 with 1 leaves 4 of 5, 0 with 2 none",
+            tiring(new int[] {14, 13, 14, 14}, new int[] {3, 0, 1, 1}, 1, 0, 1, 2, 1, 3, 1, 2).robin(7), 2);
+    }
+
+    /** Who is stronger wins; all tire by their NUMBERS; THING i is at places[i]'s. */
+    private static LoserKeepsTheBoard tiring(int[] strong, int[] numbers, int... places) {
+        LoserKeepsTheBoard x = madeWith(promise, "plays strong;throws 0;tires number;", new int[strong.length]);
+        for (int i = 0; i < strong.length; i++) {
+            x.set(3, i, strong[i]);
+            x.set(2, i, numbers[i]);
+        }
+        for (int thing = 0; thing < places.length; thing++) {
+            give(x, places[thing], thing);
+        }
+        return x;
     }
 
     private static void rings() {
@@ -890,6 +945,11 @@ public final class PromiseTests {
         due("number 9", x.tells(0, 0, 2), 512);
         due("its own number is another", x.tells(0, 0, 0), 1);
         due("and still is", x.told(0, 2), 0);
+        row(x, 0, 0, 24, 0);
+        due("no number, against oneself", x.tells(0, 0, 2), 0);
+        x = madeWith("17 tells, any number", null, PLAYER, 0);
+        due("film", x.film(0, 0), 2);
+        due("any", x.tells(0, 0, 2), 1023);
     }
 
     private static void tellsAnswers() {
@@ -981,46 +1041,57 @@ public final class PromiseTests {
         }
         for (int n = 0; n <= 60; n += 15) {
             for (int seed : new int[] {0, 5, -7, MIN, MAX}) {
-                due("seed " + seed + ", " + n, x.drawn(seed, 0, n), drawnByHand(seed, n));
+                due("seed " + seed + ", " + n, x.drawn(seed, 0, n), drawnByHand(seed, n, 3, 0));
             }
         }
         due("all is as before", x.count(2), 0);
+        x = plain("19 drawn, two", 10, 20);
+        due("two play", x.drawn(3, 0, 1), 255);
+        x = plain("19 drawn, six", 10, 20, 30, 40, 50, 60);
+        for (int n = 0; n <= 8; n++) {
+            for (int one = 0; one < 6; one++) {
+                due("six, " + n + ", " + one, x.drawn(77, one, n), drawnByHand(77, n, 6, one));
+            }
+        }
         x = plain("19 drawn, alone", 10);
         give(x, 0, 2);
         due("nobody to play with", x.drawn(1, 0, 60), 4);
     }
 
-    /** What the weakest of three has, whom all others beat: all, once one has played. */
-    private static int drawnByHand(int seed, int n) {
-        int[] has = {0, 0, 0};
+    /** What one of so many has at last, of whom each that comes later is stronger. */
+    private static int drawnByHand(int seed, int n, int many, int one) {
+        int[] has = new int[many];
         int hall = 255;
         int z = seed;
         for (int i = 0; i < n; i++) {
             z = z * 1103515245 + 12345;
-            int a = (z >>> 9) % 3;
-            int b = (a + 1 + (z >>> 17) % 2) % 3;
+            int a = (z >>> 9) % many;
+            int b = (a + 1 + (z >>> 17) % (many - 1)) % many;
             int loser = Math.min(a, b);
             int winner = Math.max(a, b);
             has[loser] |= has[winner] | hall;
             has[winner] = 0;
             hall = 0;
         }
-        return has[0];
+        return has[one];
     }
 
     private static void chances() {
-        LoserKeepsTheBoard x = plain("20 chance", 10, 20, 30);
+        LoserKeepsTheBoard x = plain("20 chance", 10, 20, 30, 40, 50, 60);
         for (int seed : new int[] {0, 100, -3, MAX - 2}) {
-            for (int m : new int[] {1, 4, 6, 20}) {
-                int above = 0;
-                for (int i = 0; i < m; i++) {
-                    above += drawnByHand(seed + i, 6) == 255 ? 1 : 0;
+            for (int m = 1; m <= 20; m++) {
+                for (int one = 0; one < 3; one++) {
+                    int above = 0;
+                    for (int i = 0; i < m; i++) {
+                        above += drawnByHand(seed + i, 6, 6, one) == 255 ? 1 : 0;
+                    }
+                    int shared = java.math.BigInteger.valueOf(above).gcd(java.math.BigInteger.valueOf(m)).intValue();
+                    due("above " + seed + ", " + m, x.chance(seed, m, one, 8, 0), above / shared);
+                    due("below " + seed + ", " + m, x.chance(seed, m, one, 8, 1), m / shared);
                 }
-                int shared = java.math.BigInteger.valueOf(above).gcd(java.math.BigInteger.valueOf(m)).intValue();
-                due("above " + seed + ", " + m, x.chance(seed, m, 0, 8, 0), above / shared);
-                due("below " + seed + ", " + m, x.chance(seed, m, 0, 8, 1), m / shared);
             }
         }
+        x = plain("20 chance", 10, 20, 30);
         due("0 or more: all", x.chance(0, 20, 1, 0, 0), 1);
         due("0 or more: all", x.chance(0, 20, 1, 0, 1), 1);
         due("the strongest has nothing", x.chance(0, 20, 2, 1, 0), 0);
@@ -1130,6 +1201,11 @@ public final class PromiseTests {
         due("a game", x.evening(1, 7), 1);
         due("anew", x.sheet(1, 2, 1), 1);
         due("all 0 is no game", x.evening(1, 7), BAD);
+        row(x, 2, 0, 5, 5);
+        due("anew", x.sheet(2, 0, 2), 1);
+        due("0 and 0", x.players(2, 0, 0, 1), 1);
+        due("kind 0", x.told(2, 4), 0);
+        due("number 0", x.told(2, 2), 0);
         due("missing", x.sheet(1, -1, 99), 1);
         due("missing", x.evening(1, 7), -11);
         due("missing, below 0", x.sheet(1, -1, -99), 1);
