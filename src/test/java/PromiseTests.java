@@ -475,6 +475,13 @@ public final class PromiseTests {
         value("2<1+2", 1);
         value("-1<0", 1);
         value("(3<4)+(4<5)*10", 11);
+        for (int inmost = 0; inmost < 2; inmost++) {
+            StringBuilder deep = new StringBuilder();
+            for (int i = 0; i < 5; i++) {
+                deep.append("0 or 1 and 8<4+5*(");
+            }
+            value(deep.append("0 or 1 and 8<4+5*").append(inmost).append(")))))").toString(), inmost);
+        }
         value("(2 and 0)+5", 5);
         value("(2 and 3)+5", 6);
         value("(0 or 0)+5", 5);
@@ -983,6 +990,16 @@ public final class PromiseTests {
         due("all is as before", x.told(0, 3) * 1000 + x.count(2), 20010);
         row(x, 1, 1, 0, 40, 50);
         due("otherwise at 2", x.tells(1, 0, 0), 2);
+        LoserKeepsTheBoard y = madeWith("17 tells, no 100", "plays strong+round-50;throws 0;tires 0;", 0, 0);
+        y.set(3, 0, 0);
+        row(y, 0, 1, 0, 50);
+        for (int what = 3; what <= 6; what++) {
+            due("of 0 .. 99 none: " + what, y.tells(0, 0, what), what % 2 == 1 ? 0 : NONE);
+        }
+        row(y, 0, 1, 0, 49);
+        for (int what = 3; what <= 6; what++) {
+            due("99: " + what, y.tells(0, 0, what), what % 2 == 1 ? 1 : 99);
+        }
 
         for (int[] a : new int[][] {{4, 0, 0}, {-1, 0, 0}, {0, 3, 0}, {0, -1, 0}, {0, 0, 9}, {0, 0, -1}, {MAX, MIN, 3}}) {
             due("tells " + a[0] + ", " + a[1] + ", " + a[2], x.tells(a[0], a[1], a[2]), BAD);
