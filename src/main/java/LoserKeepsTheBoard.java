@@ -72,9 +72,9 @@ public final class LoserKeepsTheBoard {
             case 1:
                 return setPlace(of, v);
             case 2:
-                return setNumber(of, v);
+                return setOf(now.number, of, v, MOST_NUMBER);
             case 3:
-                return setStrong(of, v);
+                return setOf(now.strong, of, v, MOST_STRONG);
             default:
                 return NONE_SUCH;
         }
@@ -98,21 +98,12 @@ public final class LoserKeepsTheBoard {
         return was;
     }
 
-    private int setNumber(int of, int v) {
-        if (!now.isPlayer(of) || !isWithin(v, 0, MOST_NUMBER)) {
+    private int setOf(int[] row, int of, int v, int most) {
+        if (!now.isPlayer(of) || of >= row.length || !isWithin(v, 0, most)) {
             return NONE_SUCH;
         }
-        int was = now.number[of];
-        now.number[of] = v;
-        return was;
-    }
-
-    private int setStrong(int of, int v) {
-        if (!now.isPlayer(of) || !isWithin(v, 0, MOST_STRONG)) {
-            return NONE_SUCH;
-        }
-        int was = now.strong[of];
-        now.strong[of] = v;
+        int was = row[of];
+        row[of] = v;
         return was;
     }
 
