@@ -15,6 +15,9 @@ public final class LoserKeepsTheBoard {
     private static final int MOST_SOON = 20, MOST_GAMES = 60, CHANCE_GAMES = 6, MOST_SEEDS = 20, MOST_ALL = 3;
     private static final int TRIED = 100, THROWN = -1;
 
+    // More than an ORDER's digits can come to.
+    private static final int ORDERS = 100000;
+
     private static final int TAPE_SIZE = 160, MOST_TEXTS = 6, MOST_OPEN = 5, MOST_DIGITS = 4, STACK_SIZE = 64;
     private static final int PLAYS_PART = 0, THROWS_PART = 1, TIRES_PART = 2, PARTS = 3;
     private static final String FIRST_RULE = "plays strong ; throws has < 1 ; tires 1 ;";
@@ -42,8 +45,6 @@ public final class LoserKeepsTheBoard {
     private final Club thought;
     private final Club[] thoughts;
     private final Sheet[] sheets;
-    private int mostByOrder;
-    private int firstOrder;
 
     public LoserKeepsTheBoard() {
         texts = new Texts();
@@ -352,28 +353,28 @@ public final class LoserKeepsTheBoard {
         if (!now.isPlayer(one) || !isWithin(what, 0, 1)) {
             return BAD;
         }
-        mostByOrder = NONE;
-        firstOrder = 0;
-        tryOrders(now, one, 0, 1 << one, 0);
-        return what == 0 ? firstOrder : mostByOrder;
+        int best = bestOrder(now, thoughts, one, 0, 1 << one, 0);
+        return what == 0 ? ORDERS - 1 - best % ORDERS : best / ORDERS;
     }
 
-    /** Goes on behind so many games with all whom one has not met; the lesser ones are tried ahead. */
-    private void tryOrders(Club club, int one, int games, int met, int digits) {
-        if (games >= now.many - 1) {
-            if (club.howMany(one) > mostByOrder) {
-                mostByOrder = club.howMany(one);
-                firstOrder = digits;
-            }
-            return;
+    /**
+     * The best way on behind so many games with all whom one has not met: ORDERS times the THINGS that one would
+     * HAVE, and ORDERS - 1 less the digits, so that of like ones the first is the highest.
+     */
+    private static int bestOrder(Club club, Club[] thoughts, int one, int games, int met, int digits) {
+        if (games >= club.many - 1) {
+            return club.howMany(one) * ORDERS + ORDERS - 1 - digits;
         }
-        for (int other = 0; other < now.many && mostByOrder < THINGS; other++) {
-            Club then = (met >> other & 1) != 0 ? null : thinkOn(club, games);
+        int best = 0;
+        for (int other = 0; other < club.many; other++) {
+            Club then = (met >> other & 1) != 0 ? null : thinkOn(club, thoughts, games);
             if (then != null) {
                 then.meet(one, other);
-                tryOrders(then, one, games + 1, met | 1 << other, digits * 10 + other + 1);
+                int way = bestOrder(then, thoughts, one, games + 1, met | 1 << other, digits * 10 + other + 1);
+                best = Math.max(best, way);
             }
         }
+        return best;
     }
 
     public int all(int n) {
@@ -383,20 +384,20 @@ public final class LoserKeepsTheBoard {
         if (n == MOST_ALL && now.many > 4) {
             return STATE;
         }
-        return whoCouldHaveAll(now, 0, n);
+        return whoCouldHaveAll(now, thoughts, 0, n);
     }
 
-    private int whoCouldHaveAll(Club club, int games, int n) {
+    private static int whoCouldHaveAll(Club club, Club[] thoughts, int games, int n) {
         int who = club.whoHasAll();
         if (games >= n) {
             return who;
         }
-        for (int one = 0; one < now.many; one++) {
-            for (int other = one + 1; other < now.many; other++) {
-                Club then = thinkOn(club, games);
+        for (int one = 0; one < club.many; one++) {
+            for (int other = one + 1; other < club.many; other++) {
+                Club then = thinkOn(club, thoughts, games);
                 if (then != null) {
                     then.meet(one, other);
-                    who |= whoCouldHaveAll(then, games + 1, n);
+                    who |= whoCouldHaveAll(then, thoughts, games + 1, n);
                 }
             }
         }
@@ -720,7 +721,7 @@ public final class LoserKeepsTheBoard {
     }
 
     /** A club in thought as that one is, which so many games led to; null if they are more than any search plays. */
-    private Club thinkOn(Club club, int games) {
+    private static Club thinkOn(Club club, Club[] thoughts, int games) {
         Club then = games >= 0 && games < thoughts.length ? thoughts[games] : null;
         if (then != null) {
             then.takes(club);
@@ -1145,12 +1146,14 @@ public final class LoserKeepsTheBoard {
         }
 
         private void readNot(int open) {
-            if (token == KEY_NOT && opens(open)) {
-                next();
-                readNot(open + 1);
+            int nots = passed(KEY_NOT, open);
+            readCompared(open + nots);
+            for (int i = 0; i < nots; i++) {
                 emit(INVERT);
-                return;
             }
+        }
+
+        private void readCompared(int open) {
             readSum(open);
             if (token == '<' || token == '=') {
                 int sign = token;
@@ -1180,17 +1183,22 @@ public final class LoserKeepsTheBoard {
         }
 
         private void readOne(int open) {
+            int minuses = passed('-', open);
+            readPlain(open + minuses);
+            for (int i = 0; i < minuses; i++) {
+                emit(NEGATE);
+            }
+        }
+
+        /** A ONE that no - stands ahead of. */
+        private void readPlain(int open) {
             if (token == A_NUMBER) {
                 emit(value);
                 next();
             } else if (token >= FIRST_NAME && token < FIRST_NAME + NAMES) {
                 emit(FIRST_NAME - 1 - token);
                 next();
-            } else if (token == '-' && opens(open)) {
-                next();
-                readOne(open + 1);
-                emit(NEGATE);
-            } else if (token == '(' && opens(open)) {
+            } else if (token == '(' && open < MOST_OPEN) {
                 next();
                 readEither(open + 1);
                 expect(')');
@@ -1199,8 +1207,14 @@ public final class LoserKeepsTheBoard {
             }
         }
 
-        private boolean opens(int open) {
-            return open < MOST_OPEN;
+        /** How many of this TOKEN stand here that may be open, one more with each: it goes on behind them. */
+        private int passed(int wanted, int open) {
+            int many = 0;
+            for (int i = open; i < MOST_OPEN && token == wanted; i++) {
+                next();
+                many++;
+            }
+            return many;
         }
 
         private void expect(int wanted) {
